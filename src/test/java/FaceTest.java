@@ -1,0 +1,60 @@
+import java.lang.reflect.Constructor;
+import java.lang.reflect.Field;
+import java.lang.reflect.Method;
+import java.lang.reflect.Modifier;
+import java.util.Arrays;
+import java.util.Set;
+import java.util.TreeSet;
+
+/** The public face is that of the document, and nothing else can be seen from outside. */
+public final class FaceTest {
+
+    private static final String[] FACE = {
+        "int closed(int,boolean)",
+        "int count(int)",
+        "int door(int,int,boolean)",
+        "int lift(int,int,long)",
+        "int mark(int)",
+        "int mover(int,long)",
+        "int piece(int,int,long,long)",
+        "int place(int)",
+        "int step(int)",
+        "int turn(int,int,boolean)",
+        "long k(int,int,int)",
+        "long table(int,int)",
+        "long told(int,int)",
+        "long way(int,int,int,long)",
+        "boolean reaches(int,int,int)",
+        "void limit(int,int,long)",
+    };
+
+    public static void main(String[] args) {
+        Check check = new Check();
+        check.note(new TreeSet<>(Arrays.asList(FACE)).toString(), "visible methods", visibleMethods().toString());
+        check.yes("the class is public and final",
+                Modifier.isPublic(WayGraph.class.getModifiers()) && Modifier.isFinal(WayGraph.class.getModifiers()));
+        Constructor<?>[] constructors = WayGraph.class.getDeclaredConstructors();
+        check.yes("one public constructor without parameters", constructors.length == 1
+                && Modifier.isPublic(constructors[0].getModifiers()) && constructors[0].getParameterCount() == 0);
+        for (Field field : WayGraph.class.getDeclaredFields()) {
+            check.yes("private: " + field.getName(), Modifier.isPrivate(field.getModifiers()));
+            check.yes("no static state: " + field.getName(), !Modifier.isStatic(field.getModifiers())
+                    || Modifier.isFinal(field.getModifiers()));
+        }
+        check.finish();
+    }
+
+    private static Set<String> visibleMethods() {
+        Set<String> visible = new TreeSet<>();
+        for (Method method : WayGraph.class.getDeclaredMethods()) {
+            if (!Modifier.isPrivate(method.getModifiers())) {
+                StringBuilder parameters = new StringBuilder();
+                for (Class<?> type : method.getParameterTypes()) {
+                    parameters.append(parameters.length() == 0 ? "" : ",").append(type.getName());
+                }
+                visible.add(method.getReturnType().getName() + " " + method.getName() + "(" + parameters + ")");
+            }
+        }
+        return visible;
+    }
+}
