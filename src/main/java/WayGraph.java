@@ -72,7 +72,7 @@ public final class WayGraph {
             throw new IllegalArgumentException("length or speed out of range");
         }
         if (speed == 0) {
-            throw new ArithmeticException("no speed");
+            throw new ArithmeticException("/ by zero");
         }
         if (pieces.size >= MOST_PIECES) {
             throw new UnsupportedOperationException("no more pieces");
