@@ -28,7 +28,7 @@ public final class AgainstSlowTest {
     }
 
     public static void main(String[] args) {
-        Check check = new Check();
+        Check check = new Check("Against the slow twin");
         for (int run = 0; run < RUNS; run++) {
             AgainstSlowTest test = new AgainstSlowTest(check, run);
             while (test.calls < CALLS) {

@@ -5,8 +5,36 @@ final class Check {
         long answer();
     }
 
+    interface Body {
+        void run();
+    }
+
+    private final String section;
+    private String sentence = "";
+    private int sentences;
     private int right;
     private int wrong;
+
+    /** The section of the document that is tested. */
+    Check(String section) {
+        this.section = section;
+    }
+
+    /** The test of one sentence of the document; one that compares nothing has failed. */
+    void sentence(String words, Body test) {
+        sentence = "\"" + words + "\": ";
+        sentences++;
+        int compared = right + wrong;
+        try {
+            test.run();
+        } catch (RuntimeException e) {
+            note("no exception", "a call between the compared ones", thrown(e));
+        }
+        if (compared == right + wrong) {
+            note("something", "compared", "nothing");
+        }
+        sentence = "";
+    }
 
     void due(long want, String name, Call call) {
         note(Long.toString(want), name, outcome(call));
@@ -36,17 +64,20 @@ final class Check {
         refuses(UnsupportedOperationException.class, name, call);
     }
 
+    /** All that the object tells of itself is behind the calls what it was before them. */
+    void unchanged(WayGraph graph, Body refusedCalls) {
+        String before = Graphs.allTold(graph);
+        refusedCalls.run();
+        note(before, "what is there behind refused calls", Graphs.allTold(graph));
+    }
+
     /** The pieces that step() tells from 0 on, and that there are no more. */
     void steps(WayGraph graph, String name, int... pieces) {
-        StringBuilder got = new StringBuilder();
-        for (int i = 0; i < 60 && graph.step(i) != -1; i++) {
-            got.append(graph.step(i)).append(' ');
-        }
         StringBuilder want = new StringBuilder();
         for (int piece : pieces) {
             want.append(piece).append(' ');
         }
-        note(want.toString(), name, got.toString());
+        note(want.toString(), name, Graphs.steps(graph));
     }
 
     void note(String want, String name, String got) {
@@ -54,12 +85,12 @@ final class Check {
             right++;
         } else {
             wrong++;
-            System.out.println(name + " answered " + got + ", due is " + want);
+            System.out.println(section + ": " + sentence + name + " answered " + got + ", due is " + want);
         }
     }
 
     void finish() {
-        System.out.println(right + " answers as due, " + wrong + " not");
+        System.out.println(section + ": " + sentences + " sentences, " + right + " answers as due, " + wrong + " not");
         if (wrong != 0 || right == 0) {
             System.exit(1);
         }
@@ -69,7 +100,11 @@ final class Check {
         try {
             return Long.toString(call.answer());
         } catch (RuntimeException e) {
-            return "throws." + e.getClass().getSimpleName();
+            return thrown(e);
         }
+    }
+
+    private static String thrown(RuntimeException e) {
+        return "throws." + e.getClass().getSimpleName();
     }
 }

@@ -29,7 +29,7 @@ public final class FaceTest {
     };
 
     public static void main(String[] args) {
-        Check check = new Check();
+        Check check = new Check("The public face");
         check.note(new TreeSet<>(Arrays.asList(FACE)).toString(), "visible methods", visibleMethods().toString());
         check.yes("the class is public and final",
                 Modifier.isPublic(WayGraph.class.getModifiers()) && Modifier.isFinal(WayGraph.class.getModifiers()));
