@@ -10,22 +10,22 @@ import java.util.TreeSet;
 public final class FaceTest {
 
     private static final String[] FACE = {
-        "int closed(int,boolean)",
-        "int count(int)",
-        "int door(int,int,boolean)",
-        "int lift(int,int,long)",
-        "int mark(int)",
-        "int mover(int,long)",
-        "int piece(int,int,long,long)",
-        "int place(int)",
-        "int step(int)",
-        "int turn(int,int,boolean)",
-        "long k(int,int,int)",
-        "long table(int,int)",
-        "long told(int,int)",
-        "long way(int,int,int,long)",
-        "boolean reaches(int,int,int)",
-        "void limit(int,int,long)",
+        "int place(int) throws IllegalArgumentException UnsupportedOperationException",
+        "int piece(int,int,long,long) throws IllegalArgumentException ArithmeticException UnsupportedOperationException",
+        "int lift(int,int,long) throws IllegalArgumentException UnsupportedOperationException",
+        "void limit(int,int,long) throws IllegalArgumentException",
+        "int mover(int,long) throws IllegalArgumentException UnsupportedOperationException",
+        "int closed(int,boolean) throws IllegalArgumentException",
+        "int turn(int,int,boolean) throws IllegalArgumentException",
+        "int door(int,int,boolean) throws IllegalArgumentException",
+        "long way(int,int,int,long) throws IllegalArgumentException",
+        "int step(int) throws",
+        "boolean reaches(int,int,int) throws IllegalArgumentException",
+        "int mark(int) throws IllegalArgumentException IllegalStateException UnsupportedOperationException",
+        "long table(int,int) throws IllegalArgumentException IllegalStateException",
+        "long k(int,int,int) throws IllegalArgumentException IllegalStateException",
+        "long told(int,int) throws IllegalArgumentException",
+        "int count(int) throws",
     };
 
     public static void main(String[] args) {
@@ -52,7 +52,12 @@ public final class FaceTest {
                 for (Class<?> type : method.getParameterTypes()) {
                     parameters.append(parameters.length() == 0 ? "" : ",").append(type.getName());
                 }
-                visible.add(method.getReturnType().getName() + " " + method.getName() + "(" + parameters + ")");
+                StringBuilder exceptions = new StringBuilder(" throws");
+                for (Class<?> type : method.getExceptionTypes()) {
+                    exceptions.append(' ').append(type.getSimpleName());
+                }
+                visible.add(method.getReturnType().getName() + " " + method.getName() + "(" + parameters + ")"
+                        + exceptions);
             }
         }
         return visible;

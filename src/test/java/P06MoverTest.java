@@ -55,6 +55,10 @@ public final class P06MoverTest {
         graph.limit(1, 2, 2);
         CHECK.due(0, "just fits the last one", () -> graph.mover(2, 2));
         CHECK.due(1, "just fits the first one", () -> graph.mover(1, 10000));
+        WayGraph forty = Graphs.withPieces(40);
+        CHECK.due(-1, "too wide for all forty", () -> forty.mover(2001, 1));
+        forty.limit(39, 2001, 1);
+        CHECK.due(0, "just fits the fortieth", () -> forty.mover(2001, 1));
     }
 
     private static void thenThereIsNone() {

@@ -104,6 +104,11 @@ public final class P15KTest {
         graph.mover(1, 1);
         rank(graph, 0, 1, 2);
         rank(graph, 1, -1);
+        CHECK.due(2, "from place 2 it comes to place 0 once", () -> graph.k(2, 1, 0));
+        CHECK.steps(graph, "its steps", 1, 2);
+        CHECK.due(-1, "and there is no other", () -> graph.k(2, 1, 1));
+        CHECK.due(1, "it may end at place 0", () -> graph.k(2, 0, 0));
+        CHECK.due(-1, "but not twice", () -> graph.k(2, 0, 1));
     }
 
     private static void byNumbers() {

@@ -282,6 +282,19 @@ public final class TermsTest {
         // A loop over pieces 1 and 0 would come back to the door before it opens.
         CHECK.due(HOUR + 7, "waits at the place", () -> graph.way(0, 0, 2, 0));
         CHECK.steps(graph, "and walks no loop", 2);
+        CHECK.due(HOUR + 7, "waits at the place on the day after", () -> graph.way(0, 0, 2, DAY));
+        CHECK.steps(graph, "and walks no loop then", 2);
+
+        WayGraph other = Graphs.flat(3);
+        Graphs.piece(other, 1, 2, 5);
+        Graphs.piece(other, 2, 1, 5);
+        Graphs.piece(other, 2, 0, 7);
+        other.mover(1, 1);
+        Graphs.onlyOpenIn(other, 2, 1);
+        CHECK.due(HOUR + 7, "waits at place 2", () -> other.way(0, 2, 0, 0));
+        CHECK.steps(other, "and walks no loop there", 2);
+        CHECK.due(HOUR + 7, "comes to place 2 before the hour", () -> other.way(0, 1, 0, 0));
+        CHECK.steps(other, "and waits there", 0, 2);
     }
 
     private static void leastNumberBefore() {
