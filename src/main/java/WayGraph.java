@@ -542,17 +542,20 @@ public final class WayGraph {
                 return;
             }
             for (int i = 0; i < pieces.size; i++) {
-                int to = pieces.ends[i];
-                if (!canBeNext(pieces, i, place, length) || hasBit(visited, to)) {
-                    continue;
+                if (canBeNext(pieces, i, place, length) && !hasBit(visited, pieces.ends[i])) {
+                    goBy(pieces, i, length, moment, visited);
                 }
-                long end = pieces.endWhenUsedFrom(i, moment);
-                trail[length] = i;
-                if (to == goal) {
-                    keep(length + 1, end);
-                } else if (rankOf(end) < MOST_RANKS) {
-                    extend(pieces, to, length + 1, end, withBit(visited, to, true));
-                }
+            }
+        }
+
+        private void goBy(Pieces pieces, int number, int length, long moment, long visited) {
+            int to = pieces.ends[number];
+            long end = pieces.endWhenUsedFrom(number, moment);
+            trail[length] = number;
+            if (to == goal) {
+                keep(length + 1, end);
+            } else if (rankOf(end) < MOST_RANKS) {
+                extend(pieces, to, length + 1, end, withBit(visited, to, true));
             }
         }
 

@@ -41,7 +41,28 @@ public final class FaceTest {
             check.yes("no static state: " + field.getName(), !Modifier.isStatic(field.getModifiers())
                     || Modifier.isFinal(field.getModifiers()));
         }
+        for (Class<?> inside : WayGraph.class.getDeclaredClasses()) {
+            int modifiers = inside.getModifiers();
+            check.yes("inside, static and not public: " + inside.getSimpleName(), Modifier.isStatic(modifiers)
+                    && !Modifier.isPublic(modifiers) && !Modifier.isProtected(modifiers));
+        }
+        check.note("[]", "hidden methods that bear the name of a public one", hiddenNamesakes().toString());
         check.finish();
+    }
+
+    private static Set<String> hiddenNamesakes() {
+        Set<String> visible = new TreeSet<>();
+        Set<String> hidden = new TreeSet<>();
+        for (Method method : WayGraph.class.getDeclaredMethods()) {
+            (Modifier.isPublic(method.getModifiers()) ? visible : hidden).add(method.getName());
+        }
+        for (Class<?> inside : WayGraph.class.getDeclaredClasses()) {
+            for (Method method : inside.getDeclaredMethods()) {
+                hidden.add(method.getName());
+            }
+        }
+        hidden.retainAll(visible);
+        return hidden;
     }
 
     private static Set<String> visibleMethods() {

@@ -91,6 +91,14 @@ public final class P14TableTest {
         CHECK.due(-1, "with the turn barred", () -> graph.table(0, 1));
         graph.closed(2, false);
         CHECK.due(15, "with that open", () -> graph.table(0, 1));
+        graph.limit(2, 10000, 10000);
+        graph.mover(10000, 10000);
+        CHECK.due(15, "with one more mover", () -> graph.table(0, 1));
+        graph.turn(0, 1, false);
+        Graphs.onlyOpenIn(graph, 2, 1);
+        CHECK.due(20, "with its door shut", () -> graph.table(0, 1));
+        graph.door(2, 0, true);
+        CHECK.due(15, "with its door open", () -> graph.table(0, 1));
     }
 
     private static void noWay() {

@@ -22,15 +22,18 @@ public final class TermsTest {
         CHECK.sentence("(rest of its division by 24)", TermsTest::pastMidnight);
         CHECK.sentence("else at the first moment later with an open hour", TermsTest::waits);
         CHECK.sentence("it is at its end its seconds later", TermsTest::secondsLater);
+        CHECK.sentence("each beginning where the one before ended (the first one at the place)", TermsTest::joined);
         CHECK.sentence("each used from the moment on at which the one before was at its end", TermsTest::oneAfterAnother);
         CHECK.sentence("no turn barred", TermsTest::noTurnBarred);
         CHECK.sentence("REACHED at the least moment", TermsTest::leastMoment);
         CHECK.sentence("The piece BEFORE it: none, if it begins at the place", TermsTest::noneBefore);
         CHECK.sentence("else the one with the least number", TermsTest::leastNumberBefore);
+        CHECK.sentence("that ends where it begins", TermsTest::endsWhereItBegins);
         CHECK.sentence("the turn not barred", TermsTest::turnNotBarredBefore);
         CHECK.sentence("reached so early that it comes out at that moment", TermsTest::earlyEnoughBefore);
         CHECK.sentence("ends with the piece that is reached first", TermsTest::reachedFirst);
         CHECK.sentence("of equal ones that with the least number", TermsTest::leastNumberOfEqual);
+        CHECK.sentence("the pieces before it are those before each", TermsTest::beforeEach);
         CHECK.sentence("(From a place to itself it has no pieces.)", TermsTest::toItself);
         CHECK.finish();
     }
@@ -229,6 +232,20 @@ public final class TermsTest {
         CHECK.due(6 * HOUR + 2 * DAY, "behind a wait", () -> graph.way(0, 0, 1, 0));
     }
 
+    private static void joined() {
+        WayGraph graph = Graphs.row(10, 10, 10);
+        Graphs.piece(graph, 3, 1, 1);
+        CHECK.due(30, "over all between", () -> graph.way(0, 0, 3, 0));
+        CHECK.steps(graph, "no piece left out", 0, 1, 2);
+        CHECK.due(10, "not by a quicker one that begins elsewhere", () -> graph.way(0, 0, 1, 0));
+        CHECK.steps(graph, "the one that begins at the place", 0);
+        CHECK.due(11, "from place 2 round to place 1", () -> graph.way(0, 2, 1, 0));
+        CHECK.steps(graph, "round", 2, 3);
+        graph.closed(1, true);
+        CHECK.due(-1, "with a gap between", () -> graph.way(0, 0, 3, 0));
+        CHECK.no("reaches over the gap", graph.reaches(0, 0, 3));
+    }
+
     private static void oneAfterAnother() {
         WayGraph graph = Graphs.row(100, 5, 7);
         Graphs.onlyOpenIn(graph, 1, 2);
@@ -317,6 +334,20 @@ public final class TermsTest {
         CHECK.steps(other, "again piece 2 is before", 1, 2, 0);
     }
 
+    private static void endsWhereItBegins() {
+        WayGraph graph = Graphs.flat(4);
+        Graphs.piece(graph, 0, 1, 5);
+        Graphs.piece(graph, 3, 2, 5);
+        Graphs.piece(graph, 0, 2, 5);
+        Graphs.piece(graph, 2, 3, 7);
+        graph.mover(1, 1);
+        CHECK.due(12, "piece 0 is reached as early, but ends elsewhere", () -> graph.way(0, 0, 3, 0));
+        CHECK.steps(graph, "piece 2 is before", 2, 3);
+        Graphs.onlyOpenIn(graph, 3, 1);
+        CHECK.due(HOUR + 7, "both come before the door opens", () -> graph.way(0, 0, 3, 0));
+        CHECK.steps(graph, "again piece 2 is before", 2, 3);
+    }
+
     private static void turnNotBarredBefore() {
         WayGraph graph = Graphs.flat(3);
         Graphs.piece(graph, 0, 1, 5);
@@ -370,6 +401,31 @@ public final class TermsTest {
         graph.closed(1, true);
         CHECK.due(10, "one way of ten seconds", () -> graph.way(0, 0, 2, 0));
         CHECK.steps(graph, "the one that ends with piece 3", 3);
+    }
+
+    /** At each of two places on the way two pieces come in time for the next one. */
+    private static void beforeEach() {
+        WayGraph graph = Graphs.flat(4);
+        Graphs.piece(graph, 2, 3, 1);
+        Graphs.piece(graph, 1, 2, 9);
+        Graphs.piece(graph, 1, 2, 5);
+        Graphs.piece(graph, 0, 1, 7);
+        Graphs.piece(graph, 0, 1, 3);
+        graph.mover(1, 1);
+        CHECK.due(9, "without doors", () -> graph.way(0, 0, 3, 0));
+        CHECK.steps(graph, "the quick ones", 4, 2, 0);
+        Graphs.onlyOpenIn(graph, 0, 2);
+        CHECK.due(2 * HOUR + 1, "a door at the end", () -> graph.way(0, 0, 3, 0));
+        CHECK.steps(graph, "the slow one before the door, the quick one before that", 4, 1, 0);
+        Graphs.onlyOpenIn(graph, 1, 1);
+        CHECK.due(2 * HOUR + 1, "a door between too", () -> graph.way(0, 0, 3, 0));
+        CHECK.steps(graph, "the slow ones", 3, 1, 0);
+        graph.turn(3, 1, true);
+        CHECK.due(2 * HOUR + 1, "the turn between them barred", () -> graph.way(0, 0, 3, 0));
+        CHECK.steps(graph, "the quick one first", 4, 1, 0);
+        graph.turn(4, 1, true);
+        CHECK.due(2 * HOUR + 1, "both turns to the slow one barred", () -> graph.way(0, 0, 3, 0));
+        CHECK.steps(graph, "the quick ones again", 4, 2, 0);
     }
 
     private static void toItself() {
